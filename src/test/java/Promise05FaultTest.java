@@ -10,6 +10,7 @@ public final class Promise05FaultTest {
         sixAreOpenAtMost(c);
         firstFaultCounts(c);
         refusesAndChangesNothing(c);
+        readingsAreApart(c);
         c.end();
     }
 
@@ -127,6 +128,16 @@ public final class Promise05FaultTest {
         c.due("sixty signs", sixty.length(), 60);
         fault(c, sixty, 60);
         fault(c, sixty.substring(0, 59) + "x", 59);
+    }
+
+    private static void readingsAreApart(Check c) {
+        GateStack x = Check.with("M{?1{!((", "A{!~-(~-1);}", "B{!123456;}");
+        for (int i = 0; i < 3; i++) {
+            c.due("unfinished", x.fault(0), 8);
+            c.due("whole", x.fault(1), -2);
+            c.due("wrong", x.fault(2), 7);
+            c.due("whole behind a wrong one", x.fault(1), -2);
+        }
     }
 
     private static void refusesAndChangesNothing(Check c) {

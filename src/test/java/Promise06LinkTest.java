@@ -55,11 +55,15 @@ public final class Promise06LinkTest {
         links(c, GateStack.MISSING, "M{?1{}:{Z;}}");
         links(c, GateStack.MISSING, "A{A;}");
         links(c, GateStack.MISSING, "M{M;A;}");
+        links(c, GateStack.MISSING, "M{Z;A;}A{}");
+        links(c, GateStack.CIRCLE, "M{M;A;}A{}");
     }
 
     private static void findsCircles(Check c) {
         links(c, GateStack.CIRCLE, "M{M;}");
         links(c, GateStack.CIRCLE, "M{A;}A{M;}");
+        links(c, GateStack.CIRCLE, "M{A;B;}A{}B{M;}");
+        links(c, GateStack.CIRCLE, "M{B;A;}A{M;}B{}");
         links(c, GateStack.CIRCLE, "M{}", "A{A;}");
         links(c, GateStack.CIRCLE, "M{?0{@0{M;}}}");
         links(c, GateStack.CIRCLE, "M{?1{}:{M;}}");
@@ -103,5 +107,10 @@ public final class Promise06LinkTest {
         Check.put(x, 0, "M{}");
         x.compile(0);
         c.due("A is not called any more", x.link(), 2);
+        Check.put(x, 1, "B{B;}");
+        x.compile(1);
+        c.due("B calls itself", x.link(), GateStack.CIRCLE);
+        x.clear(1);
+        c.due("B is gone", x.link(), 2);
     }
 }

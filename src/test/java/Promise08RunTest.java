@@ -88,6 +88,19 @@ public final class Promise08RunTest {
             c.due("over modules, output " + i, x.output(i), want[i]);
         }
         deepestChain(c);
+        newTextOverOld(c);
+    }
+
+    private static void newTextOverOld(Check c) {
+        GateStack x = Check.started("M{@0{}}");
+        c.due("old text", x.run(1), 0);
+        x.clear(0);
+        Check.put(x, 0, "M{!7;}");
+        x.compile(0);
+        x.link();
+        c.due("start of the new text", x.start(), 1);
+        c.due("new text", x.run(1), 0);
+        c.due("output of the new text", x.output(0), 7);
     }
 
     private static void deepestChain(Check c) {
@@ -154,6 +167,8 @@ public final class Promise08RunTest {
         gives(c, "4-~3", 8);
         gives(c, "(((((d)))))", 13);
         gives(c, "~~~~~d", -14);
+        gives(c, "-----d", -13);
+        gives(c, "-(-(-d))", -13);
         gives(c, "-(~(1+(2)))-1", 3);
         gives(c, "h", 0);
         gives(c, "a+b+c+d+e+f+g", 6);
