@@ -1,16 +1,22 @@
 /** Counts and prints the answers that are not as due. */
 final class Check {
     private final String name;
+    private String sentence = "";
     private int wrong;
 
     Check(String name) {
         this.name = name;
     }
 
+    /** Names the sentence of the document that the answers from here on are due by. */
+    void says(String words) {
+        sentence = " \"" + words + "\":";
+    }
+
     void due(String what, long got, long want) {
         if (got != want) {
             wrong++;
-            System.out.println(name + ": " + what + " answered " + got + ", due is " + want);
+            System.out.println(name + ":" + sentence + " " + what + " answered " + got + ", due is " + want);
         }
     }
 
@@ -22,7 +28,9 @@ final class Check {
 
     static void put(GateStack x, int module, String text) {
         for (int i = 0; i < text.length(); i++) {
-            x.sign(module, text.charAt(i));
+            if (x.sign(module, text.charAt(i)) == GateStack.REFUSED) {
+                throw new IllegalStateException("refused at " + i + ": " + text);
+            }
         }
     }
 

@@ -5,8 +5,9 @@ public final class Promise12OutputTest {
         int[] wrong = {-1, 24, Integer.MIN_VALUE, Integer.MAX_VALUE};
         for (int outputs = 0; outputs < 30; outputs++) {
             c.due("count", x.at(3), outputs);
-            for (int i = 0; i < 24; i++) {
-                c.due("output " + i, x.output(i), i < outputs ? -i : GateStack.NONE);
+            for (int i : new int[] {0, 1, outputs - 1, outputs, 22, 23}) {
+                boolean there = i >= 0 && i < outputs && i < 24;
+                c.due("output " + i, x.output(i), there ? -i : GateStack.NONE);
             }
             for (int i : wrong) {
                 c.due("output " + i, x.output(i), GateStack.NONE);

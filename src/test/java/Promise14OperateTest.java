@@ -1,9 +1,9 @@
 public final class Promise14OperateTest {
     public static void main(String[] args) {
         Check c = new Check("operate");
-        GateStack x = new GateStack();
         int[] values = {0, 1, -1, 13, -6, Integer.MIN_VALUE, Integer.MAX_VALUE, 0x55555555};
         for (int one : values) {
+            GateStack x = new GateStack();
             for (int other : values) {
                 String with = " of " + one + " and " + other;
                 c.due("0" + with, x.operate(0, one, other), (int) ((long) one + other));
