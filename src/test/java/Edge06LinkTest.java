@@ -12,6 +12,7 @@ public final class Edge06LinkTest {
         counts(c);
         runsEnd(c);
         afterwards(c);
+        asTheTextsAreNow(c);
         c.end();
     }
 
@@ -73,6 +74,11 @@ public final class Edge06LinkTest {
             }
         }
         links(c, 1, "", "M{}", "");
+        for (char letter = 'A'; letter <= 'Z'; letter++) {
+            String other = letter == 'M' ? "" : "M{}";
+            String missing = letter == 'Y' ? "X" : "Y";
+            links(c, GateStack.MISSING, other, letter + "{" + missing + ";}");
+        }
     }
 
     private static void circles(Check c) {
@@ -153,5 +159,29 @@ public final class Edge06LinkTest {
         x.start();
         c.due("run of what is linked now", x.run(4), 0);
         c.due("its output", x.output(1), 7);
+    }
+
+    private static void asTheTextsAreNow(Check c) {
+        c.says("the procedures and calls of the texts that are there now, not of those before");
+        for (char letter = 'A'; letter <= 'Z'; letter++) {
+            if (letter == 'M' || letter == 'E') {
+                continue;
+            }
+            GateStack x = Check.linked("M{" + letter + ";}", letter + "{E;}", "E{}");
+            c.due(letter + " calls E", x.state(0, 2), 1);
+            x.clear(2);
+            c.due("without E", x.link(), GateStack.MISSING);
+            x.clear(1);
+            c.due("without " + letter, x.link(), GateStack.MISSING);
+            x.clear(0);
+            Check.put(x, 0, "M{}");
+            x.compile(0);
+            c.due("M alone", x.link(), 1);
+            Check.put(x, 2, letter + "{" + letter + ";}");
+            x.compile(2);
+            c.due(letter + " calls itself", x.link(), GateStack.CIRCLE);
+            x.clear(2);
+            c.due("M alone again", x.link(), 1);
+        }
     }
 }
