@@ -1,9 +1,13 @@
+import java.util.ArrayList;
+import java.util.List;
+
 public final class Edge03ClearTest {
     public static void main(String[] args) {
         Check c = new Check("promise 3");
         modules(c);
         texts(c);
         repeated(c);
+        nothingIsLeft(c);
         c.end();
     }
 
@@ -53,5 +57,36 @@ public final class Edge03ClearTest {
                 c.due("compiled " + module, x.state(module, 1), 1);
             }
         }
+    }
+
+    private static void nothingIsLeft(Check c) {
+        c.says("The text is empty: a new one is as on a new object");
+        String[] texts = {"M{!7;}", "M{@0{}}", "M{?1{}}", "M{?0{!1;}:{!2;}}", "A{}M{A;!3;}", "M{A;!4;}A{!5;}",
+            "M{a=1;@a{a=0;?b{!1;}:{!2;}}!3;}", "M{?1{?1{?1{?1{?1{!1;}}}}}}", "A{!1;}B{!2;}M{B;A;}", "M{}A{A;}"};
+        for (String before : texts) {
+            for (String text : texts) {
+                GateStack x = Check.compiled(before);
+                x.clear(0);
+                String what = text + " behind " + before;
+                c.due(what, goes(x, text).equals(goes(new GateStack(), text)) ? 1 : 0, 1);
+            }
+        }
+    }
+
+    /** All answers from the writing of the text to the end of its run. */
+    private static List<Long> goes(GateStack x, String text) {
+        List<Long> answers = new ArrayList<>();
+        Check.put(x, 0, text);
+        answers.add((long) x.compile(0));
+        answers.add((long) x.link());
+        answers.add((long) x.start());
+        for (int i = 0; i < 20 && x.at(2) > 0; i++) {
+            answers.add((long) x.at(0));
+            answers.add((long) x.at(1));
+            answers.add((long) x.at(2));
+            answers.add((long) x.run(1));
+        }
+        answers.addAll(Trace.seen(x));
+        return answers;
     }
 }
