@@ -1,10 +1,13 @@
 import java.io.IOException;
+import java.lang.reflect.Array;
 import java.lang.reflect.Field;
 import java.lang.reflect.Method;
 import java.lang.reflect.Modifier;
 import java.nio.file.Files;
 import java.nio.file.Path;
 import java.util.ArrayList;
+import java.util.Collections;
+import java.util.IdentityHashMap;
 import java.util.List;
 import java.util.Map;
 import java.util.Set;
@@ -35,13 +38,15 @@ public final class LanguageTest {
         readBodies();
     }
 
-    public static void main(String[] args) throws IOException {
+    public static void main(String[] args) throws IOException, IllegalAccessException {
         LanguageTest test = new LanguageTest(Files.readString(FILE));
         test.members();
         test.fields();
+        test.types();
         test.words();
         test.sizes();
         test.objectsAreMadeAtFirst();
+        test.objectsAreSmall();
         test.depthOfCalls();
         test.check.end();
     }
@@ -113,6 +118,28 @@ public final class LanguageTest {
         }
     }
 
+    private void types() {
+        check.says("3: types");
+        for (Class<?> one : classes) {
+            for (Field field : one.getDeclaredFields()) {
+                holds(field + " has a type of the rules", isKnownType(field.getType()));
+            }
+            for (Method method : one.getDeclaredMethods()) {
+                boolean known = method.getReturnType() == void.class || isKnownType(method.getReturnType());
+                for (Class<?> type : method.getParameterTypes()) {
+                    known = known && isKnownType(type);
+                }
+                holds(method + " has types of the rules", known);
+            }
+        }
+    }
+
+    /** Numbers and truth, the class's own classes, and rows of these. */
+    private boolean isKnownType(Class<?> type) {
+        Class<?> element = type.isArray() ? type.getComponentType() : type;
+        return element.isPrimitive() || classes.contains(element);
+    }
+
     private void words() {
         check.says("2, 6, 13: words that may not stand");
         String[] words = {"import", "package", "throw", "throws", "try", "catch", "synchronized", "assert",
@@ -147,6 +174,36 @@ public final class LanguageTest {
             boolean makes = Pattern.compile("\\bnew\\b").matcher(body.getValue()).find();
             holds(body.getKey() + " makes none", !makes || body.getKey().equals("GateStack"));
         }
+    }
+
+    /** Some thousand objects have to live in a room of 7.3 million fields and elements. */
+    private void objectsAreSmall() throws IllegalAccessException {
+        check.says("12: what is kept is counted");
+        Set<Object> seen = Collections.newSetFromMap(new IdentityHashMap<>());
+        int inside = roomOf(new GateStack(), seen);
+        holds("an object keeps " + seen.size() + " objects and rows", seen.size() <= 60);
+        holds("they have " + inside + " fields and elements", inside > 180 && inside <= 1500);
+    }
+
+    private int roomOf(Object one, Set<Object> seen) throws IllegalAccessException {
+        if (one == null || !seen.add(one)) {
+            return 0;
+        }
+        if (one.getClass().isArray()) {
+            int room = Array.getLength(one);
+            for (int i = 0; one instanceof Object[] && i < Array.getLength(one); i++) {
+                room += roomOf(Array.get(one, i), seen);
+            }
+            return room;
+        }
+        int room = 0;
+        for (Field field : one.getClass().getDeclaredFields()) {
+            if (!Modifier.isStatic(field.getModifiers())) {
+                field.setAccessible(true);
+                room += 1 + (field.getType().isPrimitive() ? 0 : roomOf(field.get(one), seen));
+            }
+        }
+        return room;
     }
 
     private void depthOfCalls() {
